@@ -30,6 +30,7 @@ public final class WindowRing {
     private static final int RUN_EVENTS = 500;
     private static final int PLAIN_EVENTS = 2000;
     private static final int WOULD_EVENTS = 3000;
+    private static final int ABOVE_ALL = 2147483647;
 
     // 80 units, an operation between each two, two jumps for an if (each has units of its own), a return for a FUNCTION
     private static final int MOST_CODE = 400;
@@ -339,18 +340,17 @@ public final class WindowRing {
         }
         Ring now = history.now();
         int bestTried = 0;
-        int bestCost = 0;
+        int bestCost = ABOVE_ALL;
         for (int i = 0; i < TRIED_WAYS.length; i++) {
             trial.copyFrom(now);
             trial.changeHandler(TRIED_WAYS[i], at(TRIED_NUMBERS, i));
-            trial.playOn(program, WOULD_EVENTS);
-            int cost = trial.cost() - now.cost();
-            if (i == 0 || cost < bestCost) {
+            trial.playBelow(program, bestCost);
+            if (trial.cost() < bestCost) {
                 bestTried = i;
-                bestCost = cost;
+                bestCost = trial.cost();
             }
         }
-        return what == 0 ? bestTried : bestCost;
+        return what == 0 ? bestTried : bestCost - now.cost();
     }
 
     public int bestSlice(int what) {
@@ -358,19 +358,20 @@ public final class WindowRing {
             return NONE;
         }
         Ring now = history.now();
-        int bestTried = 0;
-        int bestCost = 0;
-        for (int n = 1; n <= MOST_SLICE; n++) {
+        // without another TASK to take turns with, all SLICES are alike
+        int most = now.tasksLeft() > 1 ? MOST_SLICE : 1;
+        int bestTried = 1;
+        int bestCost = ABOVE_ALL;
+        for (int n = 1; n <= most; n++) {
             trial.copyFrom(now);
             trial.slice = n;
-            trial.playOn(program, WOULD_EVENTS);
-            int cost = trial.cost() - now.cost();
-            if (n == 1 || cost < bestCost) {
+            trial.playBelow(program, bestCost);
+            if (trial.cost() < bestCost) {
                 bestTried = n;
-                bestCost = cost;
+                bestCost = trial.cost();
             }
         }
-        return what == 0 ? bestTried : bestCost;
+        return what == 0 ? bestTried : bestCost - now.cost();
     }
 
     public int trap(int i, int what) {
@@ -474,7 +475,7 @@ public final class WindowRing {
         if (resident < w) {
             return at(costsLater, resident + 1);
         }
-        int least = Integer.MAX_VALUE;
+        int least = ABOVE_ALL;
         for (int k = 1; k < w; k++) {
             least = Math.min(least, trapCost(k) + at(costsLater, w - k + 1));
         }
@@ -488,7 +489,7 @@ public final class WindowRing {
         if (resident > 1) {
             return at(costsLater, resident - 1);
         }
-        int least = Integer.MAX_VALUE;
+        int least = ABOVE_ALL;
         for (int k = 1; k <= w && k <= framesLeft; k++) {
             least = Math.min(least, trapCost(k) + at(costsLater, k));
         }
@@ -1457,6 +1458,21 @@ public final class WindowRing {
                 taken++;
             }
             return taken;
+        }
+
+        /** Plays on till all is over, but no further than the COST is as high as one that is known. */
+        void playBelow(Program program, int known) {
+            for (int taken = 0; taken < WOULD_EVENTS && turn != NONE && cost() < known; taken++) {
+                takeEvent(program);
+            }
+        }
+
+        int tasksLeft() {
+            int left = 0;
+            for (int i = 0; i < taskCount; i++) {
+                left += isOver(i) ? 0 : 1;
+            }
+            return left;
         }
 
         private int freeWindows() {
