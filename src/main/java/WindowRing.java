@@ -94,6 +94,7 @@ public final class WindowRing {
     // single, fixed 2, fixed 4, counter, double 8
     private static final int[] TRIED_WAYS = {0, 1, 1, 2, 3};
     private static final int[] TRIED_NUMBERS = {0, 2, 4, 0, 8};
+    private static final int[] NOTHING = {};
 
     private final int[] tape = new int[MOST_BYTES];
     private int tapeBytes = 0;
@@ -108,7 +109,8 @@ public final class WindowRing {
     private final boolean[] boxFilled = new boolean[MOST_BOXES];
 
     private final Ring trial = new Ring();
-    private final Plain plainCourse = new Plain();
+    private final Way plainWay = new Way();
+    private final Way[] waysAhead = new Way[MOST_TASKS];
     private final int[] fourNumbers = new int[MOST_PARAMETERS];
     private final int[] costsNow = new int[MOST_WINDOWS + 1];
     private final int[] costsLater = new int[MOST_WINDOWS + 1];
@@ -116,6 +118,9 @@ public final class WindowRing {
     public WindowRing() {
         for (int i = 0; i < boxes.length; i++) {
             boxes[i] = new Ring();
+        }
+        for (int i = 0; i < waysAhead.length; i++) {
+            waysAhead[i] = new Way();
         }
         history.startAnew(program);
     }
@@ -261,21 +266,21 @@ public final class WindowRing {
     }
 
     public int plain(int function, int a, int b, int c, int d) {
-        return followPlainly(function, a, b, c, d) ? plainCourse.course.outcome : 0;
+        return followPlainly(function, a, b, c, d) ? plainWay.course.outcome : 0;
     }
 
     public int profile(int function, int a, int b, int c, int d, int what) {
         if (what < 0 || what > 2 || !followPlainly(function, a, b, c, d)) {
             return NONE;
         }
-        return what == 0 ? plainCourse.events : what == 1 ? plainCourse.most : plainCourse.selfCalls;
+        return what == 0 ? plainWay.events : what == 1 ? plainWay.most : plainWay.selfCalls;
     }
 
     public int depths(int task, int frames) {
         if (frames < 1 || frames > MOST_FRAMES || !followTask(task)) {
             return NONE;
         }
-        return plainCourse.timesAt(frames);
+        return plainWay.timesAt(frames);
     }
 
     public int alone(int task, int way, int n, int what) {
@@ -300,9 +305,9 @@ public final class WindowRing {
             return NONE;
         }
         Arrays.fill(costsLater, 0);
-        for (int i = plainCourse.events - 1; i > 0; i--) {
-            int frames = at(plainCourse.depths, i);
-            boolean call = frames > at(plainCourse.depths, i - 1);
+        for (int i = plainWay.events - 1; i > 0; i--) {
+            int frames = at(plainWay.depths, i);
+            boolean call = frames > at(plainWay.depths, i - 1);
             for (int resident = 1; resident <= w; resident++) {
                 put(costsNow, resident, call ? leastOfCall(resident, w) : leastOfReturn(resident, frames, w));
             }
@@ -312,10 +317,10 @@ public final class WindowRing {
     }
 
     public int suits(int task) {
-        if (!followTask(task) || plainCourse.most > MOST_WINDOWS) {
+        if (!followTask(task) || plainWay.most > MOST_WINDOWS) {
             return NONE;
         }
-        return Math.max(LEAST_WINDOWS, plainCourse.most);
+        return Math.max(LEAST_WINDOWS, plainWay.most);
     }
 
     public int would(int way, int n, int what) {
@@ -339,10 +344,12 @@ public final class WindowRing {
             return NONE;
         }
         Ring now = history.now();
+        lookAhead();
         int bestTried = 0;
         int bestCost = ABOVE_ALL;
         for (int i = 0; i < TRIED_WAYS.length; i++) {
             trial.copyFrom(now);
+            trial.foresee(waysAhead);
             trial.changeHandler(TRIED_WAYS[i], at(TRIED_NUMBERS, i));
             trial.playBelow(program, bestCost);
             if (trial.cost() < bestCost) {
@@ -360,10 +367,12 @@ public final class WindowRing {
         Ring now = history.now();
         // without another TASK to take turns with, all SLICES are alike
         int most = now.tasksLeft() > 1 ? MOST_SLICE : 1;
+        lookAhead();
         int bestTried = 1;
         int bestCost = ABOVE_ALL;
         for (int n = 1; n <= most; n++) {
             trial.copyFrom(now);
+            trial.foresee(waysAhead);
             trial.slice = n;
             trial.playBelow(program, bestCost);
             if (trial.cost() < bestCost) {
@@ -387,7 +396,7 @@ public final class WindowRing {
         int wrong = ring.windowsAstray();
         for (int i = 0; i < program.tasks; i++) {
             Task task = ring.taskAt(i);
-            if (task.condition == DONE && followTask(i) && plainCourse.course.outcome != task.course.outcome) {
+            if (task.condition == DONE && followTask(i) && plainWay.course.outcome != task.course.outcome) {
                 wrong++;
             }
         }
@@ -463,12 +472,24 @@ public final class WindowRing {
         put(fourNumbers, 1, b);
         put(fourNumbers, 2, c);
         put(fourNumbers, 3, d);
-        return plainCourse.follow(program, function, fourNumbers, 0);
+        return plainWay.followWhole(program, function, fourNumbers, 0);
     }
 
     private boolean followTask(int task) {
         return isTask(task)
-            && plainCourse.follow(program, at(program.taskFunctions, task), program.taskNumbers, task * MOST_PARAMETERS);
+            && plainWay.followWhole(program, at(program.taskFunctions, task), program.taskNumbers, task * MOST_PARAMETERS);
+    }
+
+    /** How each TASK goes is the same by all HANDLERS and SLICES: it is found out once for all that are tried. */
+    private void lookAhead() {
+        for (int i = 0; i < program.tasks && i < waysAhead.length; i++) {
+            Task task = history.now().taskAt(i);
+            if (task.condition == NOT_BEGUN) {
+                waysAhead[i].followTask(program, i);
+            } else {
+                waysAhead[i].followOn(program, task.course);
+            }
+        }
     }
 
     private int leastOfCall(int resident, int w) {
@@ -1050,6 +1071,8 @@ public final class WindowRing {
         int place;
         int waiting;
         int outcome;
+        private int[] foreseen = NOTHING;
+        private int seen;
         private final int[] values = new int[MOST_FRAMES * MOST_PARAMETERS];
         private final int[] returns = new int[MOST_FRAMES];
         private final int[] numbers = new int[MOST_FRAMES * FRAME_OPERANDS];
@@ -1059,6 +1082,13 @@ public final class WindowRing {
             place = 0;
             waiting = 0;
             outcome = 0;
+            foreseen = NOTHING;
+        }
+
+        /** From now on its FRAMES are but counted, as they were found out, and its numbers not worked out again. */
+        void foresee(int[] depths) {
+            foreseen = depths;
+            seen = 0;
         }
 
         void copyFrom(Course other) {
@@ -1066,6 +1096,7 @@ public final class WindowRing {
             place = other.place;
             waiting = other.waiting;
             outcome = other.outcome;
+            foreseen = NOTHING;
             System.arraycopy(other.values, 0, values, 0, Math.min(depth * MOST_PARAMETERS, values.length));
             System.arraycopy(other.returns, 0, returns, 0, Math.min(depth, returns.length));
             System.arraycopy(other.numbers, 0, numbers, 0, Math.min(waiting, numbers.length));
@@ -1079,9 +1110,10 @@ public final class WindowRing {
         }
 
         void begin(Program program, int function, int[] given, int from) {
-            clear();
             depth = 1;
             place = at(program.entries, function);
+            waiting = 0;
+            outcome = 0;
             for (int i = 0; i < MOST_PARAMETERS; i++) {
                 put(values, i, i < at(program.parameters, function) ? at(given, from + i) : 0);
             }
@@ -1089,6 +1121,9 @@ public final class WindowRing {
 
         /** Goes to the next CALL or RETURN, and answers which it is; it is not done yet. */
         int reach(Program program) {
+            if (foreseen.length > 0) {
+                return at(foreseen, seen) > depth ? CODE_CALL : CODE_RETURN;
+            }
             // jumps lead forward alone, so the code's length bounds the way
             for (int i = 0; i < MOST_CODE; i++) {
                 int code = at(program.codes, place);
@@ -1107,6 +1142,11 @@ public final class WindowRing {
         }
 
         void enter(Program program) {
+            if (foreseen.length > 0) {
+                depth++;
+                seen++;
+                return;
+            }
             int function = called(program);
             int base = depth * MOST_PARAMETERS;
             int count = at(program.parameters, function);
@@ -1120,7 +1160,9 @@ public final class WindowRing {
 
         void leave() {
             depth--;
-            if (depth == 0) {
+            if (foreseen.length > 0) {
+                seen++;
+            } else if (depth == 0) {
                 outcome = pop();
             } else {
                 place = at(returns, depth);
@@ -1168,35 +1210,55 @@ public final class WindowRing {
         }
     }
 
-    /** A whole plain recursion, and what is told of its way. */
-    private static final class Plain {
+    /** The way of a plain recursion: how many FRAMES there are behind each EVENT, and what else is told of it. */
+    private static final class Way {
         final Course course = new Course();
-        final int[] depths = new int[PLAIN_EVENTS];
+        final int[] depths = new int[WOULD_EVENTS];
         int events;
         int most;
         int selfCalls;
 
-        /** Whether it takes no more FRAMES and EVENTS than it may. */
-        boolean follow(Program program, int function, int[] given, int from) {
+        /** Goes the whole way of a CALL; whether it takes no more FRAMES and EVENTS than it may. */
+        boolean followWhole(Program program, int function, int[] given, int from) {
             course.begin(program, function, given, from);
             put(depths, 0, 1);
             events = 1;
             most = 1;
             selfCalls = 0;
-            while (events < PLAIN_EVENTS && course.depth > 0) {
+            follow(program, function, PLAIN_EVENTS);
+            return course.depth == 0;
+        }
+
+        /** Goes the way of a TASK behind its begin. */
+        void followTask(Program program, int task) {
+            int function = at(program.taskFunctions, task);
+            course.begin(program, function, program.taskNumbers, task * MOST_PARAMETERS);
+            events = 0;
+            follow(program, function, WOULD_EVENTS);
+        }
+
+        /** Goes on from where another one is. */
+        void followOn(Program program, Course from) {
+            course.copyFrom(from);
+            events = 0;
+            follow(program, NONE, WOULD_EVENTS);
+        }
+
+        /** Goes till it is over; a CALL of one FRAME too many is told by its number, and ends it. */
+        private void follow(Program program, int function, int mostEvents) {
+            while (events < mostEvents && course.depth > 0 && course.depth <= MOST_FRAMES) {
                 if (course.reach(program) == CODE_RETURN) {
                     course.leave();
                 } else if (course.depth < MOST_FRAMES) {
                     selfCalls += course.called(program) == function ? 1 : 0;
                     course.enter(program);
                 } else {
-                    return false;
+                    course.depth++;
                 }
                 put(depths, events, course.depth);
                 most = Math.max(most, course.depth);
                 events++;
             }
-            return course.depth == 0;
         }
 
         int timesAt(int frames) {
@@ -1216,6 +1278,7 @@ public final class WindowRing {
         final Course course = new Course();
         int condition;
         int resident;
+        int latestWindow;
         int events;
         int most;
         int counter;
@@ -1229,6 +1292,7 @@ public final class WindowRing {
             course.clear();
             condition = NOT_BEGUN;
             resident = 0;
+            latestWindow = NONE;
             events = 0;
             most = 0;
             overflows = 0;
@@ -1247,6 +1311,7 @@ public final class WindowRing {
             course.copyFrom(other.course);
             condition = other.condition;
             resident = other.resident;
+            latestWindow = other.latestWindow;
             events = other.events;
             most = other.most;
             counter = other.counter;
@@ -1422,6 +1487,12 @@ public final class WindowRing {
             }
         }
 
+        void foresee(Way[] ways) {
+            for (int i = 0; i < tasks.length && i < ways.length; i++) {
+                tasks[i].course.foresee(ways[i].depths);
+            }
+        }
+
         void leaveAlone(int task) {
             for (int i = 0; i < tasks.length; i++) {
                 tasks[i].condition = i == task ? NOT_BEGUN : FAILED;
@@ -1429,23 +1500,22 @@ public final class WindowRing {
             turn = task;
         }
 
+        /** Where a FRAME is: RESIDENT ones lie one behind another, the latest one last. */
         int windowOf(int task, int frame) {
-            for (int i = 0; i < windows && i < owners.length && i < frames.length; i++) {
-                if (owners[i] == task && frames[i] == frame) {
-                    return i;
-                }
+            Task one = taskAt(task);
+            int further = one.course.depth - frame;
+            if (further < 0 || further >= one.resident) {
+                return NONE;
             }
-            return NONE;
+            int window = one.latestWindow - further;
+            return window >= 0 ? window : window + windows;
         }
 
         int windowsAstray() {
             int astray = 0;
             for (int i = 0; i < windows; i++) {
-                if (at(owners, i) != NONE) {
-                    Task task = taskAt(at(owners, i));
-                    int frame = at(frames, i);
-                    boolean there = frame <= task.course.depth && frame > task.course.depth - task.resident;
-                    astray += there ? 0 : 1;
+                if (at(owners, i) != NONE && windowOf(at(owners, i), at(frames, i)) != i) {
+                    astray++;
                 }
             }
             return astray;
@@ -1521,6 +1591,7 @@ public final class WindowRing {
             makeRoom(number, window);
             task.course.begin(program, at(program.taskFunctions, number), program.taskNumbers, number * MOST_PARAMETERS);
             task.condition = UNDER_WAY;
+            task.latestWindow = window;
             moveIn(number, 1, window);
             return window;
         }
@@ -1530,7 +1601,7 @@ public final class WindowRing {
             if (task.resident == 0) {
                 comeBack(number);
             }
-            int window = windowOf(number, task.course.depth);
+            int window = task.latestWindow;
             if (task.course.reach(program) == CODE_RETURN) {
                 return leaveFrame(number, window);
             }
@@ -1541,6 +1612,7 @@ public final class WindowRing {
             int window = usedWindow == NONE ? 0 : behind(usedWindow);
             makeRoom(number, window);
             Task task = taskAt(number);
+            task.latestWindow = window;
             moveIn(number, task.course.depth, window);
             task.filled++;
             task.underflows++;
@@ -1552,6 +1624,7 @@ public final class WindowRing {
             makeRoom(number, next);
             Task task = taskAt(number);
             task.course.enter(program);
+            task.latestWindow = next;
             moveIn(number, task.course.depth, next);
             return next;
         }
@@ -1562,13 +1635,12 @@ public final class WindowRing {
             moveOut(number, window);
             if (task.course.depth == 0) {
                 task.condition = DONE;
-                return window;
+            } else if (task.resident == 0) {
+                fill(number, window);
+            } else {
+                task.latestWindow = ahead(window);
             }
-            if (task.resident > 0) {
-                return windowOf(number, task.course.depth);
-            }
-            fill(number, window);
-            return window;
+            return task.latestWindow;
         }
 
         private int fail(int number, int window) {
