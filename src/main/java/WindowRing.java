@@ -1567,12 +1567,9 @@ public final class WindowRing {
             if (!isOver(turn) && turnEvents < slice) {
                 return;
             }
-            int next = nextTurn();
-            // a TASK that alone is left goes on with its turn, which has no end but its own
-            if (next != turn) {
-                turn = next;
-                turnEvents = 0;
-            }
+            // a TASK that alone is left comes behind itself, in a turn that has had no EVENTS
+            turn = nextTurn();
+            turnEvents = 0;
         }
 
         private int nextTurn() {

@@ -642,11 +642,8 @@ final class Model {
             turnEvents++;
             boolean over = t.condition > 1;
             if (over || turnEvents >= slice) {
-                int next = next(me);
-                if (next != me) {
-                    turn = next;
-                    turnEvents = 0;
-                }
+                turn = next(me);
+                turnEvents = 0;
             }
         }
 

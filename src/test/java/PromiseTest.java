@@ -816,25 +816,44 @@ public final class PromiseTest {
     private static void turns() {
         WindowRing ring = Rings.of("windows 12; slice 3; def z = 1; def f n = if n > 0 then f(n - 1) else 7;"
             + "task z; task f 4; task z; task f 2;");
-        // 0: two EVENTS, then over; 1: three; 2: two; 3: three; 1: three; 3: three and over; 1: four, alone
+        // 0: two EVENTS, then over; 1: three; 2: two; 3: three; 1: three; 3: three and over; 1: three, alone, one more
         int[] whose = {0, 1, 1, 1, 2, 2, 3, 3, 3, 1, 1, 1, 3, 3, 3, 1, 1, 1, 1, -1};
-        int[] counts = {1, 0, 1, 2, 0, 1, 0, 1, 2, 0, 1, 2, 0, 1, 2, 0, 1, 2, 3, 0};
+        int[] counts = {1, 0, 1, 2, 0, 1, 0, 1, 2, 0, 1, 2, 0, 1, 2, 0, 1, 2, 0, 0};
         for (int i = 0; i < whose.length; i++) {
             ring.run(1);
             due("turn behind " + (i + 1), whose[i], ring.about(7));
             due("EVENTS of it behind " + (i + 1), counts[i], ring.about(8));
         }
         due("over", 20, ring.about(3));
-        // it alone is left: its turn goes on, and ends behind its next EVENT when there is another TASK again
+        // it alone is left: it goes on, by turns of SLICE, and shares them again as soon as there is another TASK
         ring = Rings.of("windows 12; slice 3; def z = 1; def f n = if n > 0 then f(n - 1) else 7; task z; task f 9;");
         ring.run(10);
         due("alone, its turn", 1, ring.about(7));
-        due("alone, EVENTS of it", 8, ring.about(8));
+        due("alone, EVENTS of it", 2, ring.about(8));
+        ring.run(1);
+        due("alone, its next turn", 1, ring.about(7));
+        due("alone, EVENTS of its next turn", 0, ring.about(8));
         ring.again(0);
         due("its turn still", 1, ring.about(7));
+        int[] whoseNext = {1, 1, 0, 0, 1};
+        int[] countsNext = {1, 2, 0, 1, 0};
+        for (int i = 0; i < whoseNext.length; i++) {
+            ring.run(1);
+            due("turn with the other one, behind " + (i + 1), whoseNext[i], ring.about(7));
+            due("EVENTS of it, behind " + (i + 1), countsNext[i], ring.about(8));
+        }
+        // alone from the first: a turn that SLICE makes shorter ends behind the next EVENT, and one longer goes on
+        ring = Rings.of("slice 5; def f n = if n > 0 then f(n - 1) else 7; task f 20;");
+        ring.run(4);
+        ring.slice(2);
+        due("not ahead of its next EVENT", 4, ring.about(8));
         ring.run(1);
-        due("the other one's", 0, ring.about(7));
-        due("EVENTS of it", 0, ring.about(8));
+        due("ended by the lesser SLICE", 0, ring.about(8));
+        ring.run(1);
+        ring.slice(50);
+        ring.run(30);
+        due("one turn by the greater SLICE", 31, ring.about(8));
+        due("all of one TASK", 0, ring.about(7));
     }
 
     private static int formula(String formula) {
