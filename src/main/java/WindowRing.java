@@ -703,12 +703,19 @@ public final class WindowRing {
             toldLines = 0;
             surplus = NONE;
             tokens.open(text, bytes);
-            for (int i = 0; i <= MOST_BYTES && tokens.kind != KIND_END; i++) {
-                if (!readLine()) {
-                    return false;
+            boolean good = true;
+            for (int i = 0; i <= MOST_BYTES && good && tokens.kind != KIND_END; i++) {
+                switch (tokens.kind) {
+                    case WORD_WINDOWS: good = readWindows(); break;
+                    case WORD_HANDLER: good = readHandler(); break;
+                    case WORD_SLICE: good = readSlice(); break;
+                    case WORD_PRICE: good = readPrice(); break;
+                    case WORD_DEF: good = readFunction(); break;
+                    case WORD_TASK: good = readTask(); break;
+                    default: good = refuseToken(); break;
                 }
             }
-            return true;
+            return good;
         }
 
         private boolean refuse(int code, int where) {
@@ -719,18 +726,6 @@ public final class WindowRing {
 
         private boolean refuseToken() {
             return refuse(FAULT_TOKEN, tokens.start);
-        }
-
-        private boolean readLine() {
-            switch (tokens.kind) {
-                case WORD_WINDOWS: return readWindows();
-                case WORD_HANDLER: return readHandler();
-                case WORD_SLICE: return readSlice();
-                case WORD_PRICE: return readPrice();
-                case WORD_DEF: return readFunction();
-                case WORD_TASK: return readTask();
-                default: return refuseToken();
-            }
         }
 
         private boolean readWindows() {
