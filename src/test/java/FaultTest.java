@@ -16,25 +16,12 @@ public final class FaultTest {
         Rings.finish("FaultTest");
     }
 
-    /** The text, with a | where the FAULT is due. */
     private static void fault(int code, String marked) {
-        int place = marked.indexOf('|');
-        String text = marked.substring(0, place) + marked.substring(place + 1);
-        WindowRing ring = new WindowRing();
-        Rings.feed(ring, text);
-        Rings.due("store of " + marked, -1, ring.store());
-        Rings.due("fault(0) of " + marked, code, ring.fault(0));
-        Rings.due("fault(1) of " + marked, place, ring.fault(1));
-        Rings.due("about(16) behind " + marked, 0, ring.about(16));
+        Rings.fault(code, marked);
     }
 
     private static WindowRing good(int tasks, String text) {
-        WindowRing ring = new WindowRing();
-        Rings.feed(ring, text);
-        Rings.due("store of " + text, tasks, ring.store());
-        Rings.due("fault(0) of " + text, 0, ring.fault(0));
-        Rings.due("fault(1) of " + text, -1, ring.fault(1));
-        return ring;
+        return Rings.good(tasks, text);
     }
 
     private static void tokens() {

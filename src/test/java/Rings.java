@@ -1,9 +1,17 @@
+import java.io.IOException;
+import java.io.UncheckedIOException;
 import java.nio.charset.StandardCharsets;
+import java.nio.file.Files;
+import java.nio.file.Path;
 
-/** What the tests share: feeding a text, and counting the answers that are not as due. */
+/** What the tests share: feeding a text, and counting the answers that are not as due. Run from the project's folder. */
 final class Rings {
+    private static final Path DOCUMENT = Path.of("../shared/DOC.md");
     private static int wrong = 0;
     private static int asked = 0;
+    private static int sentences = 0;
+    private static String sentence = "";
+    private static String document = "";
 
     private Rings() {
     }
@@ -35,11 +43,30 @@ final class Rings {
         return number;
     }
 
+    /** The sentence that is tried from now on; it is told with each wrong answer, and must stand in the document so. */
+    static void sentence(String words) {
+        sentence = words;
+        sentences++;
+        due("the document says so", true, document().contains(words));
+    }
+
+    private static String document() {
+        if (document.isEmpty()) {
+            try {
+                document = Files.readString(DOCUMENT).replaceAll("\\s+", " ");
+            } catch (IOException e) {
+                throw new UncheckedIOException(e);
+            }
+        }
+        return document;
+    }
+
     static void due(String what, long want, long got) {
         asked++;
         if (want != got) {
             wrong++;
-            System.out.println(what + " answered " + got + ", due is " + want);
+            System.out.println((sentence.isEmpty() ? "" : "\"" + sentence + "\": ") + what + " answered " + got + ", due is "
+                + want);
         }
     }
 
@@ -47,8 +74,48 @@ final class Rings {
         due(what, want ? 1 : 0, got ? 1 : 0);
     }
 
+    /** A text with a | where its FAULT is due. */
+    static void fault(int code, String marked) {
+        int place = marked.indexOf('|');
+        String text = marked.substring(0, place) + marked.substring(place + 1);
+        WindowRing ring = new WindowRing();
+        feed(ring, text);
+        due("store of " + marked, -1, ring.store());
+        due("fault(0) of " + marked, code, ring.fault(0));
+        due("fault(1) of " + marked, place, ring.fault(1));
+        due("about(16) behind " + marked, 0, ring.about(16));
+    }
+
+    /** A text without FAULT, and how many TASKS it has. */
+    static WindowRing good(int tasks, String text) {
+        WindowRing ring = new WindowRing();
+        feed(ring, text);
+        due("store of " + text, tasks, ring.store());
+        due("fault(0) of " + text, 0, ring.fault(0));
+        due("fault(1) of " + text, -1, ring.fault(1));
+        return ring;
+    }
+
+    /** Whose FRAME lies in each WINDOW, and which: two numbers a WINDOW, from 0 on; none behind the last. */
+    static void windows(WindowRing ring, int... taskAndFrame) {
+        int last = taskAndFrame.length / 2;
+        for (int window = 0; window < last; window++) {
+            due("window(" + window + ", 0)", taskAndFrame[2 * window], ring.window(window, 0));
+            due("window(" + window + ", 1)", taskAndFrame[2 * window + 1], ring.window(window, 1));
+        }
+        due("window(" + last + ", 0)", -2, ring.window(last, 0));
+    }
+
+    /** The i-th latest TRAP. */
+    static void trap(WindowRing ring, int i, int... facts) {
+        for (int what = 0; what < facts.length; what++) {
+            due("trap(" + i + ", " + what + ")", facts[what], ring.trap(i, what));
+        }
+    }
+
     static void finish(String name) {
-        System.out.println(name + ": " + asked + " answers, " + wrong + " not as due");
+        System.out.println(name + ": " + asked + " answers" + (sentences > 0 ? " by " + sentences + " sentences" : "") + ", "
+            + wrong + " not as due");
         if (wrong != 0) {
             System.exit(1);
         }
