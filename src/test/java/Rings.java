@@ -47,7 +47,9 @@ final class Rings {
     static void sentence(String words) {
         sentence = words;
         sentences++;
-        due("the document says so", true, document().contains(words));
+        if (Files.isReadable(DOCUMENT)) {
+            due("the document says so", true, document().contains(words));
+        }
     }
 
     private static String document() {
