@@ -5,7 +5,6 @@ public final class RingEdgesTest {
     /** A FUNCTION that never comes back. */
     private static final String ENDLESS = "def w n = w(n + 1); ";
     private static final int SINGLE = 0;
-    private static final int FIXED = 1;
     private static final int COUNTER = 2;
     private static final int DOUBLE = 3;
 
@@ -370,7 +369,7 @@ public final class RingEdgesTest {
 
     private static void noMoreThanThereAre() {
         Rings.sentence("K in all at most.");
-        // windows, K, FRAMES, MOVES of the first UNDERFLOW: by K, by what is there, by the ring
+        // WINDOWS, K, MOVES of the first UNDERFLOW: K of them, but no more than the ring has
         int[][] rows = {{4, 1, 1}, {4, 2, 2}, {4, 3, 3}, {4, 4, 4}, {4, 8, 4}};
         for (int[] row : rows) {
             WindowRing ring = Rings.good(1, "windows " + row[0] + ";" + DOWN + "task f 11;");
@@ -666,16 +665,16 @@ public final class RingEdgesTest {
         }
         due("OVERFLOWS", 6, ring.task(0, 8));
         due("UNDERFLOWS", 4, ring.task(0, 9));
-        // from 0 on, at an UNDERFLOW first
+        // from 0 on by an UNDERFLOW: one is FILLED, then two, then two of four, as there are but two WINDOWS
         ring = Rings.good(1, "windows 2;" + DOWN + "task f 9;");
         ring.run(10);
         ring.handler(DOUBLE, 4);
-        int[] filled = {0, 1, 2, 0, 4};
+        int[] filled = {0, 1, 3, 3, 5};
         int[] fromZero = {0, -1, -2, -2, -4};
         for (int i = 0; i < fromZero.length; i++) {
             ring.run(1);
             task(ring, 0, 7, fromZero[i]);
-            due("FILLED by it", Math.min(filled[i], 2), i > 0 && filled[i] > 0 ? ring.trap(0, 2) : 0);
+            task(ring, 0, 11, filled[i]);
         }
         task(ring, 0, 9, 3);
     }
