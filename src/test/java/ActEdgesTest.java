@@ -313,7 +313,7 @@ public final class ActEdgesTest {
     }
 
     private static void turnIfAllWereOver() {
-        Rings.sentence("it is its turn, if all were over, else all else stays)");
+        Rings.sentence("it is its turn, if all were over, else all else stays): true");
         for (int task = 0; task < 4; task++) {
             WindowRing ring = Rings.of(DOWN + "task f 0; task f 1; task f 2; task f 0;");
             ring.run(500);

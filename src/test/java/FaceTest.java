@@ -1,8 +1,12 @@
 import java.lang.reflect.Field;
 import java.lang.reflect.Method;
 import java.lang.reflect.Modifier;
+import java.nio.file.Files;
+import java.nio.file.Path;
 import java.util.Set;
 import java.util.TreeSet;
+import java.util.regex.MatchResult;
+import java.util.regex.Pattern;
 
 /** The public face: just the document's members can be seen from outside. */
 public final class FaceTest {
@@ -15,8 +19,9 @@ public final class FaceTest {
     private FaceTest() {
     }
 
-    public static void main(String[] args) {
+    public static void main(String[] args) throws Exception {
         Class<?> type = WindowRing.class;
+        asTheDocumentTells();
         Rings.due("public final", Modifier.PUBLIC | Modifier.FINAL, type.getModifiers());
         Set<String> due = new TreeSet<>(java.util.List.of(FACE));
         Set<String> seen = new TreeSet<>();
@@ -52,5 +57,20 @@ public final class FaceTest {
             }
         }
         Rings.finish("FaceTest");
+    }
+
+    /** The list above is the document's, line by line. */
+    private static void asTheDocumentTells() throws Exception {
+        Path document = Path.of("../shared/DOC.md");
+        if (!Files.isReadable(document)) {
+            return;
+        }
+        Set<String> told = new TreeSet<>();
+        Pattern line = Pattern.compile("(?m)^    public (int|boolean) (\\w+)\\((.*)\\);$");
+        for (MatchResult call : line.matcher(Files.readString(document)).results().toList()) {
+            String numbers = call.group(3);
+            told.add(call.group(1) + " " + call.group(2) + " " + (numbers.isEmpty() ? 0 : numbers.split(",").length));
+        }
+        Rings.due("the document's " + told, true, told.equals(new TreeSet<>(java.util.List.of(FACE))));
     }
 }

@@ -1,5 +1,7 @@
+import java.lang.reflect.Modifier;
 import java.nio.file.Files;
 import java.nio.file.Path;
+import java.util.Arrays;
 import java.util.regex.Matcher;
 import java.util.regex.Pattern;
 
@@ -35,6 +37,10 @@ public final class LanguageTest {
         Matcher statics = Pattern.compile("\\bstatic (?!final )\\w+(\\[\\])? \\w+( =|;)").matcher(code);
         Rings.due("static fields are final", false, statics.find());
         methodLengths(code);
+        fields(WindowRing.class);
+        for (Class<?> inner : WindowRing.class.getDeclaredClasses()) {
+            fields(inner);
+        }
         Rings.finish("LanguageTest");
     }
 
@@ -44,7 +50,15 @@ public final class LanguageTest {
             int past = code.indexOf("\n" + heads.group(1) + "}", heads.end());
             long lines = code.substring(heads.end(), past).lines().count();
             Rings.due("lines of " + heads.group(2), true, lines <= 60);
+            // rows are made by constructors: what calls make would count by all calls of a run
+            Rings.due("new in " + heads.group(2), false,
+                !heads.group(2).equals("WindowRing") && code.substring(heads.end(), past).contains("new "));
             Rings.due("parameters of " + heads.group(2), true, heads.group(3).split(",").length <= 7);
         }
+    }
+
+    private static void fields(Class<?> type) {
+        long count = Arrays.stream(type.getDeclaredFields()).filter(field -> !Modifier.isStatic(field.getModifiers())).count();
+        Rings.due(count + " fields of " + type, true, count <= 20);
     }
 }

@@ -214,7 +214,7 @@ public final class RingEdgesTest {
     }
 
     private static void behindTheLastWindow() {
-        Rings.sentence("the new FRAME's WINDOW is the one behind that of the FRAME that calls.");
+        Rings.sentence("A CALL: the new FRAME's WINDOW is the one behind that of the FRAME that calls.");
         for (int windows = 2; windows <= 12; windows++) {
             WindowRing ring = Rings.good(1, "windows " + windows + ";" + DOWN + "task f 30;");
             for (int frame = 1; frame <= 2 * windows + 1; frame++) {
@@ -548,7 +548,7 @@ public final class RingEdgesTest {
     }
 
     private static void single() {
-        Rings.sentence("single: 1.");
+        Rings.sentence("K, by the HANDLER: single: 1.");
         WindowRing ring = Rings.good(1, "windows 4;" + DOWN + "task f 7;");
         ring.run(500);
         due("OVERFLOWS", 4, ring.task(0, 8));
